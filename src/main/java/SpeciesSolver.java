@@ -429,9 +429,13 @@ public final class SpeciesSolver {
             return size > setup.numbers[LEAP] || size <= MAX_BARRED && isIn(BARRED, size);
         }
 
+        private boolean mustTurn(int from, int to) {
+            return distance(from, to) > setup.numbers[BACK];
+        }
+
         private boolean isNotTurned(int before, int from, int to) {
             boolean turned = before < from == to < from && isStepwise(from, to);
-            return distance(before, from) > setup.numbers[BACK] && !turned;
+            return mustTurn(before, from) && !turned;
         }
 
         private boolean isBadOpening(int pitch) {
@@ -642,6 +646,8 @@ public final class SpeciesSolver {
         /** Notes to which rule 4 would object were they not PASSING. */
         private final boolean[] mustPass = new boolean[MAX_NOTES * C];
         private final int[] movePrices = new int[C * C];
+        /** Moves behind which rule 6 asks for another one. */
+        private final boolean[] mustTurn = new boolean[C * C];
         private final boolean[] badClosings = new boolean[C * C];
         private final boolean[] badTurns = new boolean[C * C * C];
         private final boolean[] passings = new boolean[C * C * C];
@@ -696,11 +702,11 @@ public final class SpeciesSolver {
         private void fillMoves() {
             for (int from = 0; from < size; from++) {
                 for (int to = 0; to < size; to++) {
-                    int low = pitches[from];
-                    int high = pitches[to];
-                    boolean bad = setup.on[LEAPING] && rules.isLeaping(low, high);
-                    movePrices[from * C + to] = bad ? FORBIDDEN : rules.moveCost(low, high);
-                    badClosings[from * C + to] = setup.on[CLOSING] && rules.isBadClosing(total - 1, low, high);
+                    int at = from * C + to;
+                    boolean bad = setup.on[LEAPING] && rules.isLeaping(pitches[from], pitches[to]);
+                    movePrices[at] = bad ? FORBIDDEN : rules.moveCost(pitches[from], pitches[to]);
+                    mustTurn[at] = setup.on[NOT_TURNED] && rules.mustTurn(pitches[from], pitches[to]);
+                    badClosings[at] = setup.on[CLOSING] && rules.isBadClosing(total - 1, pitches[from], pitches[to]);
                 }
             }
         }
@@ -747,6 +753,11 @@ public final class SpeciesSolver {
             return j >= 2 && (badTurns[at] || mustPass[(j - 1) * C + from] && !passings[at]);
         }
 
+        /** Whether what may come behind note j hangs on the one before it. */
+        private boolean looksBack(int j, int from, int to) {
+            return mustPass[j * C + to] || mustTurn[from * C + to];
+        }
+
         private boolean endsStrongMove(int j) {
             return j >= perNote && j % perNote == 0;
         }
@@ -758,8 +769,9 @@ public final class SpeciesSolver {
 
     /**
      * Goes through all beginnings at once: those that can be gone on with alike are one state. A state holds the
-     * latest note, the one before, the latest STRONG one, how many like notes come last, and whether the highest
-     * note of the line has come. For rule 10 each note of THE CHOICE is the highest in turn.
+     * latest note, the one before (or the latest again, where nothing hangs on it), the latest STRONG one, how many
+     * like notes come last, and whether the highest note of the line has come. For rule 10 each note of THE CHOICE is
+     * the highest in turn.
      */
     private static final class Search {
         private static final int BEFORE = 3;
@@ -768,8 +780,8 @@ public final class SpeciesSolver {
         private static final int ALIKE = 10;
         private static final int NOTE_BITS = 7;
         private static final int STATES = 3 << ALIKE;
-        /** Most states of one layer: like notes come last only where the latest two are the same. */
-        private static final int WIDTH = 2 * MAX_CHOICE * (MAX_CHOICE * (MAX_CHOICE - 1) + 2 * MAX_CHOICE);
+        /** Most states of one layer: one to three like notes come last where the latest two are the same, else one. */
+        private static final int WIDTH = 2 * MAX_CHOICE * (MAX_CHOICE * (MAX_CHOICE - 1) + 3 * MAX_CHOICE);
 
         private final Setup setup;
         private final Prices prices;
@@ -880,10 +892,11 @@ public final class SpeciesSolver {
 
         private int stateAfter(int j, int state, int to) {
             int latest = state & NOTE_BITS;
+            int before = prices.looksBack(j, latest, to) ? latest : to;
             int strong = j % prices.perNote == 0 ? to : state >> STRONG & NOTE_BITS;
             int used = to == top ? 1 : state >> USED & 1;
             int alike = to == latest && prices.mostAlike > 0 ? (state >> ALIKE) + 1 : 0;
-            return to | latest << BEFORE | strong << STRONG | used << USED | alike << ALIKE;
+            return to | before << BEFORE | strong << STRONG | used << USED | alike << ALIKE;
         }
 
         /** What note j adds to the COST of a beginning in a state; FORBIDDEN when it breaks a rule. */
