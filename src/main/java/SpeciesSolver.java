@@ -421,7 +421,7 @@ public final class SpeciesSolver {
         }
 
         private boolean isPassing(int before, int pitch, int after) {
-            return before < pitch == pitch < after && isStepwise(before, pitch) && isStepwise(pitch, after);
+            return (before < pitch) == (pitch < after) && isStepwise(before, pitch) && isStepwise(pitch, after);
         }
 
         private boolean isLeaping(int from, int to) {
@@ -434,7 +434,7 @@ public final class SpeciesSolver {
         }
 
         private boolean isNotTurned(int before, int from, int to) {
-            boolean turned = before < from == to < from && isStepwise(from, to);
+            boolean turned = (before < from) == (to < from) && isStepwise(from, to);
             return mustTurn(before, from) && !turned;
         }
 
@@ -560,15 +560,15 @@ public final class SpeciesSolver {
             if (rule >= PARALLEL && rule <= NOT_PASSING) {
                 for (int with = 0; with < setup.lines; with++) {
                     if (breaksWith(with, rule, line, j)) {
-                        record(rule, j, with);
+                        addFault(rule, j, with);
                     }
                 }
             } else if (breaksAlone(rule, line, j)) {
-                record(rule, j, NONE);
+                addFault(rule, j, NONE);
             }
         }
 
-        private void record(int rule, int j, int with) {
+        private void addFault(int rule, int j, int with) {
             if (faults < MAX_TOLD) {
                 faultRules[faults] = rule;
                 faultNotes[faults] = j;

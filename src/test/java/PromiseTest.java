@@ -388,8 +388,9 @@ public final class PromiseTest {
         CHECK.due("14: a rule counts at once", y.count(), 8 * 7 * 7);
         y.number(11, 2);
         CHECK.due("14: a number counts at once", y.count(), 512 - 8);
-        y.species(2, true);
         y.rule(7, false);
+        y.count();
+        y.species(2, true);
         CHECK.due("14: a species counts at once", y.count(), 32768);
         write(y, 60, 62, 64);
         y.give();
@@ -452,6 +453,12 @@ public final class PromiseTest {
         for (int rule = 0; rule < 11; rule++) {
             x.rule(rule, rule == 3);
         }
+        x.drop();
+        x.drop();
+        CHECK.due("14: against 60, 62, 64, 62 and 60", x.count(), 8 * 7 * 6 * 7 * 8);
+        x.keep();
+        CHECK.due("14: and against 67, 65, 67, 71 and 72", x.count(), 4 * 5 * 4 * 2);
+        x.keep();
         write(x, 66, 66, 66, 72, 71);
         x.attempt();
         x.judge();
