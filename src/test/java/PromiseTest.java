@@ -1,7 +1,6 @@
 /** Each promise by its number: ordinary inputs, the edges that the document names, and wrong inputs. */
-public final class PromiseTest {
+public final class PromiseTest extends Solvers {
     private static final Check CHECK = new Check("PromiseTest");
-    private static final int NONE = SpeciesSolver.NONE;
     private static final int[] AT_FIRST = {2741, 60, 72, 921, 129, 129, 1, 3136, 2, 12, 4, 1, 5, 3, 1, 2, 1, 1};
     private static final int[] WRONG = {-1, Integer.MIN_VALUE, Integer.MAX_VALUE};
 
@@ -35,47 +34,8 @@ public final class PromiseTest {
         CHECK.end();
     }
 
-    private static void write(SpeciesSolver x, int... pitches) {
-        for (int pitch : pitches) {
-            x.note(pitch);
-        }
-    }
-
-    private static SpeciesSolver given(int... pitches) {
-        SpeciesSolver x = new SpeciesSolver();
-        write(x, pitches);
-        CHECK.due("give()", x.give(), 0);
-        return x;
-    }
-
     private static SpeciesSolver withoutRules(int... pitches) {
-        SpeciesSolver x = given(pitches);
-        for (int rule = 0; rule < 11; rule++) {
-            x.rule(rule, false);
-        }
-        return x;
-    }
-
-    private static void range(SpeciesSolver x, int low, int high) {
-        x.number(1, low);
-        x.number(2, high);
-    }
-
-    private static String line(SpeciesSolver x) {
-        StringBuilder b = new StringBuilder();
-        for (int i = 0; i < x.told(5); i++) {
-            b.append(i == 0 ? "" : " ").append(x.found(i));
-        }
-        return b.toString();
-    }
-
-    private static String faults(SpeciesSolver x, int most) {
-        StringBuilder b = new StringBuilder();
-        for (int k = 0; k < most && x.fault(k, 0) != NONE; k++) {
-            b.append(k == 0 ? "" : ", ").append(x.fault(k, 0)).append(' ').append(x.fault(k, 1)).append(' ')
-                .append(x.fault(k, 2));
-        }
-        return b.toString();
+        return only(NONE, 1, pitches.length, pitches);
     }
 
     private static void newObject() {

@@ -1,5 +1,5 @@
 /** Each rule and each cost by itself: of a line that is tried (promises 18 to 20) and of those found (11 to 16). */
-public final class RuleTest {
+public final class RuleTest extends Solvers {
     private static final Check CHECK = new Check("RuleTest");
 
     public static void main(String[] args) {
@@ -20,44 +20,6 @@ public final class RuleTest {
         strongCosts();
         hardCosts();
         CHECK.end();
-    }
-
-    /** A solver with one rule on (none for -1), and lines of the same n given as one row. */
-    private static SpeciesSolver only(int rule, int species, int n, int... lines) {
-        SpeciesSolver x = new SpeciesSolver();
-        for (int r = 0; r < 11; r++) {
-            x.rule(r, r == rule);
-        }
-        x.species(species, true);
-        for (int i = 0; i < lines.length; i++) {
-            x.note(lines[i]);
-            if (i % n == n - 1) {
-                x.give();
-            }
-        }
-        return x;
-    }
-
-    private static String judged(SpeciesSolver x, int... line) {
-        for (int pitch : line) {
-            x.note(pitch);
-        }
-        x.attempt();
-        int all = x.judge();
-        StringBuilder b = new StringBuilder();
-        for (int k = 0; k < all; k++) {
-            b.append(k == 0 ? "" : ", ").append(x.fault(k, 0)).append(' ').append(x.fault(k, 1)).append(' ')
-                .append(x.fault(k, 2));
-        }
-        return b.toString();
-    }
-
-    private static int tried(SpeciesSolver x, int... line) {
-        for (int pitch : line) {
-            x.note(pitch);
-        }
-        x.attempt();
-        return x.tried();
     }
 
     /** How many lines there are when each note of these two may stand anywhere. */
@@ -228,7 +190,7 @@ public final class RuleTest {
     }
 
     private static void moveCosts() {
-        SpeciesSolver x = only(-1, 1, 4, 60, 60, 60, 60);
+        SpeciesSolver x = only(NONE, 1, 4, 60, 60, 60, 60);
         for (int which = 12; which < 18; which++) {
             x.number(which, 0);
         }
@@ -246,7 +208,7 @@ public final class RuleTest {
     }
 
     private static void strongCosts() {
-        SpeciesSolver x = only(-1, 2, 3, 60, 62, 60, 55, 57, 59, 50, 50, 50);
+        SpeciesSolver x = only(NONE, 2, 3, 60, 62, 60, 55, 57, 59, 50, 50, 50);
         for (int which = 12; which < 18; which++) {
             x.number(which, 0);
         }
@@ -263,7 +225,7 @@ public final class RuleTest {
     }
 
     private static void hardCosts() {
-        SpeciesSolver x = only(-1, 4, 2, 60, 60, 61, 61);
+        SpeciesSolver x = only(NONE, 4, 2, 60, 60, 61, 61);
         for (int which = 12; which < 17; which++) {
             x.number(which, 0);
         }
