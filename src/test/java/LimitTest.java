@@ -75,17 +75,14 @@ public final class LimitTest {
     }
 
     private static void dearestSearches() {
-        SpeciesSolver x = longest();
-        x.rule(10, true);
-        x.rule(7, true);
-        x.number(11, 3);
-        x.number(12, 1000);
-        x.number(13, 1000);
-        x.number(14, 1000);
-        x.number(15, 1000);
-        x.number(16, 1000);
-        x.number(17, 1000);
         for (int i = 0; i < 40; i++) {
+            SpeciesSolver x = longest();
+            x.rule(10, true);
+            x.rule(7, true);
+            x.number(11, 3);
+            for (int which = 12; which < 18; which++) {
+                x.number(which, 1000);
+            }
             x.number(14, 1000 - i);
             CHECK.due("solve()", x.solve(), 1);
             CHECK.due("ties()", x.ties() != 0, true);

@@ -62,7 +62,6 @@ final class Oracle {
 
     /** The faults of the first notes of a line, as rule, note and given line; of all when the line is whole. */
     List<int[]> faults(int[] p, int size) {
-        boolean whole = size == total();
         List<int[]> all = new ArrayList<>();
         int highest = -1;
         for (int j = 0; j < size; j++) {
@@ -70,61 +69,9 @@ final class Oracle {
         }
         boolean seenHighest = false;
         for (int j = 0; j < size; j++) {
-            boolean move = strong(j) && j > 0;
-            if (on[0] && strong(j) && hard(p, j)) {
-                all.add(new int[] {0, j, -1});
-            }
-            for (int g = 0; g < given.size(); g++) {
-                if (on[1] && move && cls(p, j, g) == cls(p, j - k, g) && has(4, cls(p, j, g)) && alike(p, j, g)) {
-                    all.add(new int[] {1, j, g});
-                }
-            }
-            for (int g = 0; g < given.size(); g++) {
-                if (on[2] && move && has(4, cls(p, j, g)) && alike(p, j, g) && Math.abs(p[j] - p[j - k]) > numbers[8]) {
-                    all.add(new int[] {2, j, g});
-                }
-            }
-            for (int g = 0; g < given.size(); g++) {
-                int other = given.get(g)[j / k];
-                if (on[3] && (above && p[j] < other || !above && p[j] > other)) {
-                    all.add(new int[] {3, j, g});
-                }
-            }
-            for (int g = 0; g < given.size(); g++) {
-                if (on[4] && !strong(j) && j + 1 < size && hardWith(p, j, g)) {
-                    boolean passing = small(p[j - 1], p[j]) && small(p[j], p[j + 1])
-                        && way(p[j - 1], p[j]) == way(p[j], p[j + 1]);
-                    if (!passing) {
-                        all.add(new int[] {4, j, g});
-                    }
-                }
-            }
-            if (on[5] && j > 0) {
-                int leap = Math.abs(p[j] - p[j - 1]);
-                if (leap > numbers[9] || leap < 25 && has(7, leap)) {
-                    all.add(new int[] {5, j, -1});
-                }
-            }
-            if (on[6] && j > 1 && Math.abs(p[j - 1] - p[j - 2]) > numbers[10]) {
-                boolean back = small(p[j - 1], p[j]) && way(p[j - 2], p[j - 1]) == -way(p[j - 1], p[j]);
-                if (!back) {
-                    all.add(new int[] {6, j, -1});
-                }
-            }
-            int like = 0;
-            for (int i = j - 1; i >= 0 && p[i] == p[j]; i--) {
-                like++;
-            }
-            if (on[7] && like >= numbers[11]) {
-                all.add(new int[] {7, j, -1});
-            }
-            if (on[8] && j == 0 && !has(5, cls(p, 0, 0))) {
-                all.add(new int[] {8, 0, -1});
-            }
-            if (on[9] && whole && j == size - 1 && !(has(6, cls(p, j, 0)) && small(p[j - 1], p[j]))) {
-                all.add(new int[] {9, j, -1});
-            }
-            if (on[10] && whole && p[j] == highest) {
+            addFaultsWithLines(all, p, j, size);
+            addFaultsAlone(all, p, j, size);
+            if (on[10] && size == total() && p[j] == highest) {
                 if (seenHighest) {
                     all.add(new int[] {10, j, -1});
                 }
@@ -134,21 +81,92 @@ final class Oracle {
         return all;
     }
 
+    /** Whether note j of a beginning of so many breaks a rule, but for rule 10. */
+    boolean breaksAt(int[] p, int j, int size) {
+        List<int[]> all = new ArrayList<>();
+        addFaultsWithLines(all, p, j, size);
+        addFaultsAlone(all, p, j, size);
+        return !all.isEmpty();
+    }
+
+    private void addFaultsWithLines(List<int[]> all, int[] p, int j, int size) {
+        boolean move = strong(j) && j > 0;
+        if (on[0] && strong(j) && hard(p, j)) {
+            all.add(new int[] {0, j, -1});
+        }
+        for (int g = 0; g < given.size(); g++) {
+            if (on[1] && move && cls(p, j, g) == cls(p, j - k, g) && has(4, cls(p, j, g)) && alike(p, j, g)) {
+                all.add(new int[] {1, j, g});
+            }
+        }
+        for (int g = 0; g < given.size(); g++) {
+            if (on[2] && move && has(4, cls(p, j, g)) && alike(p, j, g) && Math.abs(p[j] - p[j - k]) > numbers[8]) {
+                all.add(new int[] {2, j, g});
+            }
+        }
+        for (int g = 0; g < given.size(); g++) {
+            int other = given.get(g)[j / k];
+            if (on[3] && (above && p[j] < other || !above && p[j] > other)) {
+                all.add(new int[] {3, j, g});
+            }
+        }
+        for (int g = 0; g < given.size(); g++) {
+            if (on[4] && !strong(j) && j + 1 < size && hardWith(p, j, g)) {
+                boolean passing = small(p[j - 1], p[j]) && small(p[j], p[j + 1])
+                    && way(p[j - 1], p[j]) == way(p[j], p[j + 1]);
+                if (!passing) {
+                    all.add(new int[] {4, j, g});
+                }
+            }
+        }
+    }
+
+    private void addFaultsAlone(List<int[]> all, int[] p, int j, int size) {
+        if (on[5] && j > 0) {
+            int leap = Math.abs(p[j] - p[j - 1]);
+            if (leap > numbers[9] || leap < 25 && has(7, leap)) {
+                all.add(new int[] {5, j, -1});
+            }
+        }
+        if (on[6] && j > 1 && Math.abs(p[j - 1] - p[j - 2]) > numbers[10]) {
+            boolean back = small(p[j - 1], p[j]) && way(p[j - 2], p[j - 1]) == -way(p[j - 1], p[j]);
+            if (!back) {
+                all.add(new int[] {6, j, -1});
+            }
+        }
+        int like = 0;
+        for (int i = j - 1; i >= 0 && p[i] == p[j]; i--) {
+            like++;
+        }
+        if (on[7] && like >= numbers[11]) {
+            all.add(new int[] {7, j, -1});
+        }
+        if (on[8] && j == 0 && !has(5, cls(p, 0, 0))) {
+            all.add(new int[] {8, 0, -1});
+        }
+        if (on[9] && size == total() && j == size - 1 && !(has(6, cls(p, j, 0)) && small(p[j - 1], p[j]))) {
+            all.add(new int[] {9, j, -1});
+        }
+    }
+
     int cost(int[] p) {
         int sum = 0;
-        int size = total();
-        for (int j = 1; j < size; j++) {
+        for (int j = 0; j < total(); j++) {
+            sum += costAt(p, j);
+        }
+        return sum;
+    }
+
+    /** What note j and the moves to it add to the cost. */
+    int costAt(int[] p, int j) {
+        int sum = !strong(j) && hard(p, j) ? numbers[17] : 0;
+        if (j > 0) {
             int move = Math.abs(p[j] - p[j - 1]);
             sum += (move == 0 ? numbers[12] : 0) + (move > numbers[8] ? numbers[13] : 0) + move * numbers[14];
         }
-        for (int g = 0; g < given.size(); g++) {
-            for (int j = k; j < size; j += k) {
-                sum += alike(p, j, g) ? numbers[15] : 0;
-                sum += j < size - 1 && has(4, cls(p, j, g)) ? numbers[16] : 0;
-            }
-        }
-        for (int j = 0; j < size; j++) {
-            sum += !strong(j) && hard(p, j) ? numbers[17] : 0;
+        for (int g = 0; g < given.size() && j > 0 && strong(j); g++) {
+            sum += alike(p, j, g) ? numbers[15] : 0;
+            sum += j < total() - 1 && has(4, cls(p, j, g)) ? numbers[16] : 0;
         }
         return sum;
     }

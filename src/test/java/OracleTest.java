@@ -1,7 +1,7 @@
 import java.util.List;
 import java.util.Random;
 
-/** Random setups with a fixed seed: every answer against that of the oracle (promises 10 to 20). */
+/** Random setups with a fixed seed: every answer against that of the oracles (promises 10 to 20). */
 public final class OracleTest {
     private static final Check CHECK = new Check("OracleTest");
     private static final Random RANDOM = new Random(20261115);
@@ -16,6 +16,13 @@ public final class OracleTest {
         for (int run = 0; run < 6000; run++) {
             compareJudge(run);
         }
+        int longOnes = 0;
+        int longSetups = 400;
+        for (int run = 0; run < longSetups; run++) {
+            longOnes += compareLongSearch(run) ? 1 : 0;
+        }
+        CHECK.due("enough long ones have a line", longOnes > longSetups / 5 && longOnes < longSetups, true);
+        compareFullestLayers();
         CHECK.end();
     }
 
@@ -86,12 +93,17 @@ public final class OracleTest {
         x.species(k, o.above);
     }
 
-    /** A MODE and a range that hold so many pitches that not too many lines are to be made. */
-    private static void setChoice(Oracle o, SpeciesSolver x, int notes) {
+    /** How many pitches there may be to choose from if not too many lines are to be made. */
+    private static int mostFor(int notes) {
         int most = 8;
         while (Math.pow(most, notes) > 9000) {
             most--;
         }
+        return most;
+    }
+
+    /** A MODE and a range that hold so many pitches, or fewer. */
+    private static void setChoice(Oracle o, SpeciesSolver x, int most) {
         int low = between(48, 66);
         int mode = 0;
         int high = low;
@@ -122,7 +134,7 @@ public final class OracleTest {
         setSpecies(o, x, k);
         setRules(o, x);
         setNumbers(o, x);
-        setChoice(o, x, o.total());
+        setChoice(o, x, mostFor(o.total()));
         o.search();
         String name = "run " + run + ": ";
         CHECK.due(name + "choice()", x.choice(), o.choice().length);
@@ -131,16 +143,65 @@ public final class OracleTest {
             CHECK.due(name + "reach()", x.reach(), o.reach());
             CHECK.due(name + "count()", x.count(), o.count);
         }
-        CHECK.due(name + "solve()", x.solve(), o.least == -1 ? 0 : 1);
-        CHECK.due(name + "cost()", x.cost(), o.least);
-        CHECK.due(name + "told(5)", x.told(5), o.line.length);
-        for (int i = 0; i < o.total(); i++) {
-            CHECK.due(name + "found(" + i + ")", x.found(i), i < o.line.length ? o.line[i] : -1);
-        }
+        compareFound(name, x, o.least, o.line, o.total());
         CHECK.due(name + "ties()", x.ties(), o.ties);
         CHECK.due(name + "count()", x.count(), o.count);
         CHECK.due(name + "reach()", x.reach(), o.reach());
         return o.least != -1;
+    }
+
+    private static void compareFound(String name, SpeciesSolver x, int least, int[] line, int total) {
+        CHECK.due(name + "solve()", x.solve(), least == -1 ? 0 : 1);
+        CHECK.due(name + "cost()", x.cost(), least);
+        CHECK.due(name + "told(5)", x.told(5), line.length);
+        for (int i = 0; i < total; i++) {
+            CHECK.due(name + "found(" + i + ")", x.found(i), i < line.length ? line[i] : -1);
+        }
+    }
+
+    /** Lines of up to 45 notes, of which there are too many to make each. */
+    private static boolean compareLongSearch(int run) {
+        Oracle o = new Oracle();
+        SpeciesSolver x = new SpeciesSolver();
+        int[] species = {1, 2, 4};
+        int k = species[RANDOM.nextInt(3)];
+        setLines(o, x, between(k == 1 ? 8 : 6, 12));
+        setSpecies(o, x, k);
+        setRules(o, x);
+        setNumbers(o, x);
+        setChoice(o, x, k == 1 ? 8 : between(3, 5));
+        String name = "long run " + run + ": ";
+        LongOracle l = new LongOracle(o);
+        CHECK.due(name + "count()", x.count(), l.count());
+        CHECK.due(name + "ties()", x.ties(), l.ties());
+        compareFound(name, x, l.least(), l.line(), o.total());
+        return l.least() != -1;
+    }
+
+    /** Every pair of notes that are not the same must be held by the search, and so must up to three that are. */
+    private static void compareFullestLayers() {
+        for (int run = 0; run < 4; run++) {
+            Oracle o = new Oracle();
+            SpeciesSolver x = new SpeciesSolver();
+            setLines(o, x, run < 2 ? 2 : 3);
+            setSpecies(o, x, 4);
+            for (int rule = 0; rule < 11; rule++) {
+                o.on[rule] = rule == 6 || rule == 7 || rule == 10 && run % 2 == 0;
+                x.rule(rule, o.on[rule]);
+            }
+            set(o, x, 0, 0b101010101010);
+            set(o, x, 1, 61);
+            set(o, x, 2, 75);
+            set(o, x, 8, 12);
+            set(o, x, 10, 1);
+            set(o, x, 11, 3);
+            CHECK.due("choice()", x.choice(), 8);
+            String name = "full run " + run + ": ";
+            LongOracle l = new LongOracle(o);
+            CHECK.due(name + "count()", x.count(), l.count());
+            CHECK.due(name + "ties()", x.ties(), l.ties());
+            compareFound(name, x, l.least(), l.line(), o.total());
+        }
     }
 
     private static void compareJudge(int run) {
@@ -165,7 +226,9 @@ public final class OracleTest {
         String name = "judge run " + run + ": ";
         CHECK.due(name + "judge()", x.judge(), faults.size());
         CHECK.due(name + "tried()", x.tried(), o.cost(p));
-        for (int i = 0; i < 203; i++) {
+        // an object has no more than 512 calls, so not all of many faults can be asked for
+        int from = faults.size() <= 120 ? 0 : RANDOM.nextInt(203 - 120);
+        for (int i = from; i < from + 120; i++) {
             for (int what = 0; what < 3; what++) {
                 int want = i < faults.size() && i < 200 ? faults.get(i)[what] : -1;
                 CHECK.due(name + "fault(" + i + ", " + what + ")", x.fault(i, what), want);

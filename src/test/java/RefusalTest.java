@@ -26,8 +26,8 @@ public final class RefusalTest extends Solvers {
     }
 
     /** A call that must answer so, and leave an object in that state as it was. */
-    private static void refused(String name, Consumer<SpeciesSolver> state, ToLongFunction<SpeciesSolver> call,
-            long due) {
+    private static void changesNothing(String name, Consumer<SpeciesSolver> state,
+            ToLongFunction<SpeciesSolver> call, long due) {
         SpeciesSolver asked = made(state);
         CHECK.due(name, call.applyAsLong(asked), due);
         CHECK.due(name + " again", call.applyAsLong(asked), due);
@@ -114,32 +114,32 @@ public final class RefusalTest extends Solvers {
     private static void refusedNotes() {
         int[] wrong = {-1, 128, Integer.MIN_VALUE, Integer.MAX_VALUE};
         for (int pitch : wrong) {
-            refused("note(" + pitch + ")", RefusalTest::bare, x -> x.note(pitch), NONE);
-            refused("note(" + pitch + ") when busy", RefusalTest::busy, x -> x.note(pitch), NONE);
-            refused("note(" + pitch + ") behind 44", x -> draftOf(x, 44), x -> x.note(pitch), NONE);
-            refused("note(" + pitch + ") behind 45", x -> draftOf(x, 45), x -> x.note(pitch), NONE);
+            changesNothing("note(" + pitch + ")", RefusalTest::bare, x -> x.note(pitch), NONE);
+            changesNothing("note(" + pitch + ") when busy", RefusalTest::busy, x -> x.note(pitch), NONE);
+            changesNothing("note(" + pitch + ") behind 44", x -> draftOf(x, 44), x -> x.note(pitch), NONE);
+            changesNothing("note(" + pitch + ") behind 45", x -> draftOf(x, 45), x -> x.note(pitch), NONE);
         }
-        refused("note(60) behind 45", x -> draftOf(x, 45), x -> x.note(60), NONE);
-        refused("note(0) behind 45", x -> draftOf(x, 45), x -> x.note(0), NONE);
+        changesNothing("note(60) behind 45", x -> draftOf(x, 45), x -> x.note(60), NONE);
+        changesNothing("note(0) behind 45", x -> draftOf(x, 45), x -> x.note(0), NONE);
     }
 
     /** 3: "NONE when there are 3, it has not 2 to 12 notes, or not as many as the others." */
     private static void refusedGives() {
         int[] sizes = {0, 1, 13, 23, 44, 45};
         for (int size : sizes) {
-            refused("give() of " + size, x -> draftOf(x, size), x -> x.give(), NONE);
+            changesNothing("give() of " + size, x -> draftOf(x, size), x -> x.give(), NONE);
         }
-        refused("give() of 3 where n is 4", RefusalTest::busy, x -> x.give(), NONE);
-        refused("give() of 5 where n is 4", x -> {
+        changesNothing("give() of 3 where n is 4", RefusalTest::busy, x -> x.give(), NONE);
+        changesNothing("give() of 5 where n is 4", x -> {
             busy(x);
             write(x, 62, 60);
         }, x -> x.give(), NONE);
-        refused("give() of a fourth", RefusalTest::full, x -> x.give(), NONE);
-        refused("give() of a fourth of another n", x -> {
+        changesNothing("give() of a fourth", RefusalTest::full, x -> x.give(), NONE);
+        changesNothing("give() of a fourth of another n", x -> {
             full(x);
             x.note(60);
         }, x -> x.give(), NONE);
-        refused("give() of an empty fourth", x -> {
+        changesNothing("give() of an empty fourth", x -> {
             full(x);
             x.attempt();
         }, x -> x.give(), NONE);
@@ -147,8 +147,8 @@ public final class RefusalTest extends Solvers {
 
     /** 5: "whether there was one". */
     private static void refusedDrops() {
-        refused("drop()", RefusalTest::bare, x -> x.drop() ? 1 : 0, 0);
-        refused("drop() of none that is left", x -> {
+        changesNothing("drop()", RefusalTest::bare, x -> x.drop() ? 1 : 0, 0);
+        changesNothing("drop() of none that is left", x -> {
             busy(x);
             x.drop();
         }, x -> x.drop() ? 1 : 0, 0);
@@ -158,8 +158,8 @@ public final class RefusalTest extends Solvers {
     private static void refusedSpecies() {
         int[] wrong = {0, 3, 5, 6, 8, -1, -2, -4, Integer.MIN_VALUE, Integer.MAX_VALUE};
         for (int k : wrong) {
-            refused("species(" + k + ", true)", RefusalTest::busy, x -> x.species(k, true) ? 1 : 0, 0);
-            refused("species(" + k + ", false)", RefusalTest::bare, x -> x.species(k, false) ? 1 : 0, 0);
+            changesNothing("species(" + k + ", true)", RefusalTest::busy, x -> x.species(k, true) ? 1 : 0, 0);
+            changesNothing("species(" + k + ", false)", RefusalTest::bare, x -> x.species(k, false) ? 1 : 0, 0);
         }
     }
 
@@ -167,9 +167,9 @@ public final class RefusalTest extends Solvers {
     private static void refusedRules() {
         int[] wrong = {-1, 11, 12, Integer.MIN_VALUE, Integer.MAX_VALUE};
         for (int rule : wrong) {
-            refused("rule(" + rule + ", true)", RefusalTest::busy, x -> x.rule(rule, true) ? 1 : 0, 0);
-            refused("rule(" + rule + ", false)", RefusalTest::busy, x -> x.rule(rule, false) ? 1 : 0, 0);
-            refused("rule(" + rule + ", false)", RefusalTest::bare, x -> x.rule(rule, false) ? 1 : 0, 0);
+            changesNothing("rule(" + rule + ", true)", RefusalTest::busy, x -> x.rule(rule, true) ? 1 : 0, 0);
+            changesNothing("rule(" + rule + ", false)", RefusalTest::busy, x -> x.rule(rule, false) ? 1 : 0, 0);
+            changesNothing("rule(" + rule + ", false)", RefusalTest::bare, x -> x.rule(rule, false) ? 1 : 0, 0);
         }
     }
 
@@ -177,8 +177,8 @@ public final class RefusalTest extends Solvers {
     private static void refusedNumbers() {
         int[] wrong = {-1, 18, Integer.MIN_VALUE, Integer.MAX_VALUE};
         for (int which : wrong) {
-            refused("number(" + which + ", 1)", RefusalTest::busy, x -> x.number(which, 1) ? 1 : 0, 0);
-            refused("number(" + which + ", -1)", RefusalTest::bare, x -> x.number(which, -1) ? 1 : 0, 0);
+            changesNothing("number(" + which + ", 1)", RefusalTest::busy, x -> x.number(which, 1) ? 1 : 0, 0);
+            changesNothing("number(" + which + ", -1)", RefusalTest::bare, x -> x.number(which, -1) ? 1 : 0, 0);
         }
         int[] below = {-1, -1, -1, -1, -1, -1, -1, -1, 0, 0, 0, 0, -1, -1, -1, -1, -1, -1};
         int[] above = {4096, 128, 128, 4096, 4096, 4096, 4096, 1 << 25, 13, 25, 25, 4,
@@ -187,7 +187,8 @@ public final class RefusalTest extends Solvers {
             int which = number;
             int[] values = {below[which], above[which], Integer.MIN_VALUE, Integer.MAX_VALUE};
             for (int v : values) {
-                refused("number(" + which + ", " + v + ")", RefusalTest::busy, x -> x.number(which, v) ? 1 : 0, 0);
+                String name = "number(" + which + ", " + v + ")";
+                changesNothing(name, RefusalTest::busy, x -> x.number(which, v) ? 1 : 0, 0);
             }
         }
     }
@@ -216,25 +217,25 @@ public final class RefusalTest extends Solvers {
     }
 
     private static void refusedSearches(String name, Consumer<SpeciesSolver> state) {
-        refused("solve(): " + name, state, x -> x.solve(), NONE);
-        refused("count(): " + name, state, x -> x.count(), NONE);
-        refused("ties(): " + name, state, x -> x.ties(), NONE);
-        refused("reach(): " + name, state, x -> x.reach(), NONE);
+        changesNothing("solve(): " + name, state, x -> x.solve(), NONE);
+        changesNothing("count(): " + name, state, x -> x.count(), NONE);
+        changesNothing("ties(): " + name, state, x -> x.ties(), NONE);
+        changesNothing("reach(): " + name, state, x -> x.reach(), NONE);
     }
 
     /** 17: "NONE when none is found, there are 3, no line is given, or n is another one". */
     private static void refusedKeeps() {
-        refused("keep() of nothing", RefusalTest::bare, x -> x.keep(), NONE);
-        refused("keep() of none found", x -> {
+        changesNothing("keep() of nothing", RefusalTest::bare, x -> x.keep(), NONE);
+        changesNothing("keep() of none found", x -> {
             busy(x);
             x.number(0, 0);
             x.solve();
         }, x -> x.keep(), NONE);
-        refused("keep() of a fourth", RefusalTest::full, x -> x.keep(), NONE);
-        refused("keep() without a line", RefusalTest::busyWithoutLine, x -> x.keep(), NONE);
+        changesNothing("keep() of a fourth", RefusalTest::full, x -> x.keep(), NONE);
+        changesNothing("keep() without a line", RefusalTest::busyWithoutLine, x -> x.keep(), NONE);
         for (int n = 2; n <= 6; n++) {
             int other = n;
-            refused("keep() where n was 4", x -> {
+            changesNothing("keep() where n was 4", x -> {
                 busy(x);
                 x.attempt();
                 x.drop();
@@ -267,48 +268,48 @@ public final class RefusalTest extends Solvers {
     }
 
     private static void refusedJudgements(String name, Consumer<SpeciesSolver> state) {
-        refused("judge(): " + name, state, x -> x.judge(), NONE);
-        refused("tried(): " + name, state, x -> x.tried(), NONE);
+        changesNothing("judge(): " + name, state, x -> x.judge(), NONE);
+        changesNothing("tried(): " + name, state, x -> x.tried(), NONE);
     }
 
     /** 9, 12, 19 and 21: what there is none of is NONE. */
     private static void wrongQuestions() {
         int[] wrong = {-1, 45, 200, Integer.MIN_VALUE, Integer.MAX_VALUE};
         for (int i : wrong) {
-            refused("setting(" + i + ")", RefusalTest::busy, x -> x.setting(i), NONE);
-            refused("found(" + i + ")", RefusalTest::busy, x -> x.found(i), NONE);
-            refused("told(" + i + ")", RefusalTest::busy, x -> x.told(i), NONE);
-            refused("fault(" + i + ", 0)", RefusalTest::busy, x -> x.fault(i, 0), NONE);
-            refused("fault(0, " + i + ")", RefusalTest::busy, x -> x.fault(0, i), NONE);
+            changesNothing("setting(" + i + ")", RefusalTest::busy, x -> x.setting(i), NONE);
+            changesNothing("found(" + i + ")", RefusalTest::busy, x -> x.found(i), NONE);
+            changesNothing("told(" + i + ")", RefusalTest::busy, x -> x.told(i), NONE);
+            changesNothing("fault(" + i + ", 0)", RefusalTest::busy, x -> x.fault(i, 0), NONE);
+            changesNothing("fault(0, " + i + ")", RefusalTest::busy, x -> x.fault(0, i), NONE);
         }
-        refused("setting(18)", RefusalTest::busy, x -> x.setting(18), NONE);
-        refused("told(6)", RefusalTest::busy, x -> x.told(6), NONE);
-        refused("fault(0, 3)", RefusalTest::busy, x -> x.fault(0, 3), NONE);
-        refused("found(7)", RefusalTest::busy, x -> x.found(7), NONE);
-        refused("found(0)", RefusalTest::bare, x -> x.found(0), NONE);
-        refused("cost()", RefusalTest::bare, x -> x.cost(), NONE);
-        refused("choice()", RefusalTest::busyWithNine, x -> x.choice(), NONE);
+        changesNothing("setting(18)", RefusalTest::busy, x -> x.setting(18), NONE);
+        changesNothing("told(6)", RefusalTest::busy, x -> x.told(6), NONE);
+        changesNothing("fault(0, 3)", RefusalTest::busy, x -> x.fault(0, 3), NONE);
+        changesNothing("found(7)", RefusalTest::busy, x -> x.found(7), NONE);
+        changesNothing("found(0)", RefusalTest::bare, x -> x.found(0), NONE);
+        changesNothing("cost()", RefusalTest::bare, x -> x.cost(), NONE);
+        changesNothing("choice()", RefusalTest::busyWithNine, x -> x.choice(), NONE);
     }
 
     /** Calls that only ask change nothing either: what is counted is not found, and what is priced is not judged. */
     private static void questions() {
         SpeciesSolver y = made(RefusalTest::busy);
-        refused("choice()", RefusalTest::busy, x -> x.choice(), y.choice());
-        refused("cost()", RefusalTest::busy, x -> x.cost(), y.cost());
-        refused("found(0)", RefusalTest::busy, x -> x.found(0), y.found(0));
-        refused("count()", RefusalTest::busy, x -> x.count(), y.count());
-        refused("ties()", RefusalTest::busy, x -> x.ties(), y.ties());
-        refused("reach()", RefusalTest::busy, x -> x.reach(), y.reach());
-        refused("tried()", RefusalTest::busy, x -> x.tried(), y.tried());
-        refused("fault(0, 0)", RefusalTest::busy, x -> x.fault(0, 0), y.fault(0, 0));
+        changesNothing("choice()", RefusalTest::busy, x -> x.choice(), y.choice());
+        changesNothing("cost()", RefusalTest::busy, x -> x.cost(), y.cost());
+        changesNothing("found(0)", RefusalTest::busy, x -> x.found(0), y.found(0));
+        changesNothing("count()", RefusalTest::busy, x -> x.count(), y.count());
+        changesNothing("ties()", RefusalTest::busy, x -> x.ties(), y.ties());
+        changesNothing("reach()", RefusalTest::busy, x -> x.reach(), y.reach());
+        changesNothing("tried()", RefusalTest::busy, x -> x.tried(), y.tried());
+        changesNothing("fault(0, 0)", RefusalTest::busy, x -> x.fault(0, 0), y.fault(0, 0));
         Consumer<SpeciesSolver> otherNumbers = x -> {
             busy(x);
             x.number(14, 0);
             x.rule(7, false);
         };
         SpeciesSolver z = made(otherNumbers);
-        refused("count() of others than found", otherNumbers, x -> x.count(), z.count());
-        refused("ties() of others than found", otherNumbers, x -> x.ties(), z.ties());
-        refused("reach() of others than found", otherNumbers, x -> x.reach(), z.reach());
+        changesNothing("count() of others than found", otherNumbers, x -> x.count(), z.count());
+        changesNothing("ties() of others than found", otherNumbers, x -> x.ties(), z.ties());
+        changesNothing("reach() of others than found", otherNumbers, x -> x.reach(), z.reach());
     }
 }

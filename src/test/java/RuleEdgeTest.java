@@ -422,24 +422,30 @@ public final class RuleEdgeTest extends Solvers {
     /** "A LINE KEEPS the rules when it has no FAULT": of all lines of a small CHOICE, those judged without one. */
     private static void searchedAsJudged() {
         for (int rule = 0; rule < RULES; rule++) {
-            SpeciesSolver x = only(rule, 2, 2, 60, 62, 61, 60);
-            x.number(0, 4095);
-            range(x, 60, 66);
-            x.number(3, 1 << 3 | 1 << 4 | 1 << 5 | 1);
-            long kept = 0;
-            int least = Integer.MAX_VALUE;
-            for (int i = 0; i < 343; i++) {
-                SpeciesSolver y = only(rule, 2, 2, 60, 62, 61, 60);
-                y.number(3, 1 << 3 | 1 << 4 | 1 << 5 | 1);
-                attempt(y, 60 + i / 49, 60 + i / 7 % 7, 60 + i % 7);
-                if (y.judge() == 0) {
-                    kept++;
-                    least = Math.min(least, y.tried());
-                }
-            }
-            CHECK.due("count() with rule " + rule, x.count(), kept);
-            x.solve();
-            CHECK.due("cost() with rule " + rule, x.cost(), kept == 0 ? NONE : least);
+            searchedAsJudged(rule, 1, 3, 60, 62, 61, 61, 60, 63);
+            searchedAsJudged(rule, 2, 2, 60, 62, 61, 60);
         }
+    }
+
+    private static void searchedAsJudged(int rule, int species, int n, int... lines) {
+        int consonant = 1 | 1 << 3 | 1 << 4 | 1 << 5;
+        SpeciesSolver x = only(rule, species, n, lines);
+        x.number(0, 4095);
+        range(x, 60, 66);
+        x.number(3, consonant);
+        long kept = 0;
+        int least = Integer.MAX_VALUE;
+        for (int i = 0; i < 7 * 7 * 7; i++) {
+            SpeciesSolver y = only(rule, species, n, lines);
+            y.number(3, consonant);
+            attempt(y, 60 + i / 49, 60 + i / 7 % 7, 60 + i % 7);
+            if (y.judge() == 0) {
+                kept++;
+                least = Math.min(least, y.tried());
+            }
+        }
+        CHECK.due("count() with rule " + rule + ", SPECIES " + species, x.count(), kept);
+        x.solve();
+        CHECK.due("cost() with rule " + rule + ", SPECIES " + species, x.cost(), kept == 0 ? NONE : least);
     }
 }

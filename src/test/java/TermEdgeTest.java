@@ -298,6 +298,19 @@ public final class TermEdgeTest extends Solvers {
         x.solve();
         CHECK.due("the first note", line(x), "60 60 60");
         lastNoteDecides();
+        highestNoteDoesNotDecide();
+    }
+
+    /** MOVES of 1 and 4 alone: 62 63 62 has the lowest of all highest notes, but begins higher. */
+    private static void highestNoteDoesNotDecide() {
+        SpeciesSolver x = only(10, 1, 3, 60, 60, 60);
+        noCosts(x);
+        x.number(0, 1 | 1 << 2 | 1 << 3 | 1 << 4);
+        range(x, 60, 64);
+        x.rule(5, true);
+        x.number(7, 1 | 1 << 2 | 1 << 3);
+        x.solve();
+        CHECK.due("the first note, whatever is the highest", line(x), "60 64 60");
     }
 
     private static void lastNoteDecides() {
