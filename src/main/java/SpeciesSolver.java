@@ -821,7 +821,8 @@ public final class SpeciesSolver {
             closes = true;
             int from = setup.on[SUMMIT] ? 0 : prices.size;
             int to = setup.on[SUMMIT] ? prices.size - 1 : prices.size;
-            for (top = from; top <= to; top++) {
+            for (int highest = from; highest <= to; highest++) {
+                top = highest;
                 if (spread() == prices.total) {
                     weigh();
                     gather();

@@ -33,6 +33,7 @@ final class LongOracle {
     private final Oracle oracle;
     private Map<String, Beginnings> layer = new HashMap<>();
     private final Beginnings whole = new Beginnings();
+    private int longest = 0;
 
     LongOracle(Oracle oracle) {
         this.oracle = oracle;
@@ -41,6 +42,7 @@ final class LongOracle {
         layer.put("", empty);
         for (int j = 0; j < oracle.total(); j++) {
             extend(j);
+            longest = layer.isEmpty() ? longest : j + 1;
         }
         for (Beginnings each : layer.values()) {
             if (!oracle.on[10] || comesOnce(each.line)) {
@@ -93,5 +95,10 @@ final class LongOracle {
 
     int[] line() {
         return whole.line;
+    }
+
+    /** How many notes the longest beginning has that breaks none of the rules on but rule 10. */
+    int longest() {
+        return longest;
     }
 }
