@@ -27,7 +27,7 @@ public final class ReadmeTest {
                 CHECK.due("README.md calls " + method.getName(), called.contains(method.getName()), true);
             }
         }
-        CHECK.due("README.md says how the tests are run", readme.contains("`.ci/run`"), true);
+        CHECK.due("README.md says how the tests are run", readme.contains("```sh\n.ci/run\n```"), true);
         CHECK.end();
     }
 
